@@ -50,16 +50,17 @@ public final class GlacierBook {
     private final Text text;
 
     public GlacierBook() {
-        now = new Page();
+        Page page = new Page();
+        now = page;
         past = new Page[MOST_ACTS];
         for (int i = 0; i < MOST_ACTS; i++) {
             past[i] = new Page();
         }
         nextPast = 0;
         acts = 0;
-        chains = new Chains(now.bounds);
-        drawing = new Drawing(now.pile);
-        laying = new Laying(now);
+        chains = new Chains(page.bounds);
+        drawing = new Drawing(page.pile);
+        laying = new Laying(page);
         text = new Text();
     }
 

@@ -138,6 +138,11 @@ public final class AgesTest {
         Expect.badNumber("least() with 50 of the same", () -> x.least(1, 1, 0));
         Expect.badNumber("most() with 50 of too many years", () -> x.most(1, 2, 10000));
         Expect.noLayer("most() with 50 of no layer", () -> x.most(3, 2, 10000));
+        Expect.is("low(1, 0) with 50", x.low(1, 0), 48);
+        Expect.is("high(1, 0) with 50", x.high(1, 0), 100);
+        Expect.is("follows(48) with 50", x.follows(48), false);
+        Expect.is("follows(49) with 50", x.follows(49), true);
+        Expect.is("errors() with 50", x.errors(), 0);
         Expect.is("takeBack(7)", x.takeBack(7), 49);
         Expect.badState("least() with 50, one taken back", () -> x.least(2, 0, 1));
         Expect.is("undo()", x.undo(), 7);

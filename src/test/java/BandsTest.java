@@ -116,6 +116,11 @@ public final class BandsTest {
         Expect.noIndex("tie(1, 3), tied and no band", () -> x.tie(1, 3));
         Expect.is("tie(3, 2)", x.tie(3, 2), 2);
         Expect.is("tie(0, 0)", x.tie(0, 0), 3);
+        GlacierBook y = withBands("111", "111");
+        y.tie(0, 1);
+        Expect.badState("tie(1, 0) crosses the first one", () -> y.tie(1, 0));
+        Expect.badState("tie(2, 0) crosses the first one", () -> y.tie(2, 0));
+        Expect.is("tie(2, 2)", y.tie(2, 2), 2);
         Expect.is("bands that are tied", x.partner(0, 3), 2);
         Expect.is("the band left alone", x.partner(0, 2), -1);
     }
@@ -234,6 +239,12 @@ public final class BandsTest {
         w.setPrices(3, 0, 0);
         Expect.is("both alone", w.partner(0, 0), -1);
         Expect.is("both alone", w.partner(1, 0), -1);
+        GlacierBook u = withBands("9999999999999999", "1111111111111111");
+        u.tie(15, 15);
+        u.setPrices(0, 0, 0);
+        Expect.is("partner(0, 14) of many steps", u.partner(0, 14), -1);
+        Expect.is("partner(0, 15) at the end of 31 steps", u.partner(0, 15), 15);
+        Expect.is("partner(1, 15) at the end of 31 steps", u.partner(1, 15), 15);
         GlacierBook v = withBands("2", "22");
         v.setPrices(2, 0, 0);
         Expect.is("ONLY_1 comes ahead of DOUBLE_1, behind TOGETHER", v.partner(1, 1), -1);

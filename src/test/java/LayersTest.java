@@ -85,6 +85,17 @@ public final class LayersTest {
                 Expect.is("isAbove(" + a + ", " + b + ")", x.isAbove(a, b), place[a] < place[b]);
             }
         }
+        GlacierBook y = AgesTest.withLayers(16);
+        for (int between = 1; between <= 16; between++) {
+            int upper = between % 16 + 1;
+            int lower = upper % 16 + 1;
+            y.layOn(upper, between);
+            y.layOn(between, lower);
+            Expect.is("isAbove() through " + between, y.isAbove(upper, lower), true);
+            Expect.is("isAbove() the other way", y.isAbove(lower, upper), false);
+            y.undo();
+            y.undo();
+        }
         for (int wrong : WRONG_OF_FOUR) {
             Expect.noLayer("isAbove(" + wrong + ", 1)", () -> x.isAbove(wrong, 1));
             Expect.noLayer("isAbove(1, " + wrong + ")", () -> x.isAbove(1, wrong));

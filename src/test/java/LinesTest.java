@@ -4,6 +4,7 @@ public final class LinesTest {
         promise45();
         promise45EachByte();
         promise46();
+        promise46WordsBefore();
         promise46Numbers();
         promise46Ends();
         promise47();
@@ -130,6 +131,18 @@ public final class LinesTest {
         Expect.is("fault() behind more", x.fault(), 1);
         Expect.is("fault() again", x.fault(), 1);
         Expect.is("the text is as it was", x.type(0L), 7);
+    }
+
+    /** What words there were before tells nothing of the words that are missing now. */
+    private static void promise46WordsBefore() {
+        GlacierBook x = AgesTest.withLayers(1);
+        lineOn(x, "least 1 0 5");
+        type(x, "least 1 0");
+        Expect.is("fault() of a word that was there", x.fault(), 3);
+        Expect.badNumber("doLine()", x::doLine);
+        Expect.is("fault() of the line that was there", x.fault(), 0);
+        Expect.badNumber("doLine()", x::doLine);
+        Expect.is("boundCount()", x.boundCount(), 1);
     }
 
     private static void promise46Numbers() {

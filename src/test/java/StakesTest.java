@@ -61,6 +61,13 @@ public final class StakesTest {
         Expect.is("valueOf(0, 0)", x.valueOf(0, 0), 5);
         Expect.is("valueOf(7, 0)", x.valueOf(7, 0), -999);
         Expect.is("valueOf(0, 9)", x.valueOf(0, 9), 0);
+        for (int value = -999; value <= 999; value++) {
+            GlacierBook y = new GlacierBook();
+            Expect.is("read() of each value", y.read(6, 8, value), 1);
+            Expect.is("valueOf() of each value", y.valueOf(6, 8), value);
+            Expect.is("reason() of each value", y.reason(6, 8), 0);
+            Expect.is("noReading() of each value", y.noReading(6, 8), value);
+        }
         for (int zone = 0; zone < 8; zone++) {
             Expect.is("read() of all zones", x.read(zone, 4, 10 * zone), zone + 1);
         }
@@ -203,5 +210,12 @@ public final class StakesTest {
         x.read(0, 0, 9);
         x.read(7, 0, 0);
         Expect.is("lineOf(0), not the first one alone", x.lineOf(0), 6);
+        for (int line = 0; line <= 8; line++) {
+            GlacierBook y = new GlacierBook();
+            for (int zone = 0; zone < 8; zone++) {
+                y.read(zone, 9, zone == line - 1 ? -1 : 0);
+            }
+            Expect.is("lineOf(9) above a zone below 0", y.lineOf(9), line);
+        }
     }
 }
