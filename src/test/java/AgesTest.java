@@ -18,19 +18,12 @@ public final class AgesTest {
         promise10FewestBounds();
         promise10LeastSum();
         promise10LeastNumbers();
+        promise10OtherBegins();
         promise10LongRing();
         promise10WhatIsKept();
         promise11();
         promise12();
         Expect.end("AgesTest");
-    }
-
-    static GlacierBook withLayers(int count) {
-        GlacierBook x = new GlacierBook();
-        for (int i = 0; i < count; i++) {
-            x.addLayer();
-        }
-        return x;
     }
 
     private static void ring(String what, GlacierBook x, int... due) {
@@ -56,7 +49,7 @@ public final class AgesTest {
     }
 
     private static void promise03() {
-        GlacierBook x = withLayers(3);
+        GlacierBook x = Books.layers(3);
         Expect.is("least(2, 1, 30)", x.least(2, 1, 30), 0);
         Expect.is("low(2, 1)", x.low(2, 1), 30);
         Expect.is("high(1, 2)", x.high(1, 2), -30);
@@ -76,7 +69,7 @@ public final class AgesTest {
     }
 
     private static void promise03WrongInputs() {
-        GlacierBook x = withLayers(2);
+        GlacierBook x = Books.layers(2);
         for (int wrong : new int[] {-1, 3, 17, LEAST_INT, GREATEST_INT}) {
             Expect.noLayer("least(" + wrong + ", 0, 1)", () -> x.least(wrong, 0, 1));
             Expect.noLayer("least(0, " + wrong + ", 1)", () -> x.least(0, wrong, 1));
@@ -93,7 +86,7 @@ public final class AgesTest {
     }
 
     private static void promise04() {
-        GlacierBook x = withLayers(3);
+        GlacierBook x = Books.layers(3);
         Expect.is("most(2, 1, 30)", x.most(2, 1, 30), 0);
         Expect.is("high(2, 1)", x.high(2, 1), 30);
         Expect.is("low(1, 2)", x.low(1, 2), -30);
@@ -110,7 +103,7 @@ public final class AgesTest {
     }
 
     private static void promise04WrongInputs() {
-        GlacierBook x = withLayers(2);
+        GlacierBook x = Books.layers(2);
         for (int wrong : new int[] {-1, 3, 17, LEAST_INT, GREATEST_INT}) {
             Expect.noLayer("most(" + wrong + ", 0, 1)", () -> x.most(wrong, 0, 1));
             Expect.noLayer("most(0, " + wrong + ", 1)", () -> x.most(0, wrong, 1));
@@ -126,7 +119,7 @@ public final class AgesTest {
     }
 
     private static void promises03And04FiftyBounds() {
-        GlacierBook x = withLayers(2);
+        GlacierBook x = Books.layers(2);
         for (int number = 0; number < 50; number++) {
             Expect.is("a bound", number % 2 == 0 ? x.least(1, 0, number) : x.most(1, 0, 100), number);
         }
@@ -154,7 +147,7 @@ public final class AgesTest {
     }
 
     private static void promise05() {
-        GlacierBook x = withLayers(2);
+        GlacierBook x = Books.layers(2);
         x.least(1, 0, 10);
         x.most(1, 0, 20);
         x.least(2, 1, 5);
@@ -176,7 +169,7 @@ public final class AgesTest {
     }
 
     private static void promise06() {
-        GlacierBook x = withLayers(4);
+        GlacierBook x = Books.layers(4);
         x.least(2, 1, 10);
         x.least(3, 2, 10);
         x.least(3, 1, 20);
@@ -199,7 +192,7 @@ public final class AgesTest {
             Expect.noIndex("follows(" + wrong + ")", () -> x.follows(wrong));
         }
         Expect.is("follows() is no act", x.actCount(), 8);
-        GlacierBook y = withLayers(2);
+        GlacierBook y = Books.layers(2);
         y.least(1, 0, 5);
         y.most(1, 0, 5);
         Expect.is("follows(), the same two ways", y.follows(0), false);
@@ -208,7 +201,7 @@ public final class AgesTest {
     }
 
     private static void promise07() {
-        GlacierBook x = withLayers(3);
+        GlacierBook x = Books.layers(3);
         x.least(1, 0, 100);
         x.least(2, 1, 30);
         x.most(3, 0, 150);
@@ -220,7 +213,7 @@ public final class AgesTest {
         for (int a = 0; a <= 3; a++) {
             Expect.is("low of the same", x.low(a, a), 0);
         }
-        GlacierBook y = withLayers(3);
+        GlacierBook y = Books.layers(3);
         y.least(1, 0, 100);
         Expect.nothingThere("low(2, 0) without a bound", () -> y.low(2, 0));
         Expect.nothingThere("low(0, 1) without a most one", () -> y.low(0, 1));
@@ -230,7 +223,7 @@ public final class AgesTest {
             Expect.noLayer("low(0, " + wrong + ")", () -> y.low(0, wrong));
             Expect.noLayer("low of the same that is none", () -> y.low(wrong, wrong));
         }
-        GlacierBook z = withLayers(16);
+        GlacierBook z = Books.layers(16);
         for (int layer = 1; layer <= 16; layer++) {
             z.least(layer, layer - 1, 9999);
         }
@@ -238,7 +231,7 @@ public final class AgesTest {
     }
 
     private static void promise08() {
-        GlacierBook x = withLayers(3);
+        GlacierBook x = Books.layers(3);
         x.least(1, 0, 100);
         x.least(2, 1, 30);
         x.most(3, 0, 150);
@@ -258,7 +251,7 @@ public final class AgesTest {
             Expect.noLayer("high(0, " + wrong + ")", () -> x.high(0, wrong));
             Expect.noLayer("high of the same that is none", () -> x.high(wrong, wrong));
         }
-        GlacierBook z = withLayers(16);
+        GlacierBook z = Books.layers(16);
         for (int layer = 1; layer <= 16; layer++) {
             z.most(layer, layer - 1, 9999);
         }
@@ -266,7 +259,7 @@ public final class AgesTest {
     }
 
     private static void promise09() {
-        GlacierBook x = withLayers(2);
+        GlacierBook x = Books.layers(2);
         Expect.is("ringLength() at first", x.ringLength(), 0);
         x.most(1, 0, 5);
         Expect.is("ringLength() behind a bound", x.ringLength(), 0);
@@ -279,7 +272,7 @@ public final class AgesTest {
 
     /** A ring with fewer bounds is told, even if a longer one has a lesser sum. */
     private static void promise10FewestBounds() {
-        GlacierBook x = withLayers(3);
+        GlacierBook x = Books.layers(3);
         x.least(1, 0, 100);
         x.least(2, 1, 100);
         x.least(3, 2, 100);
@@ -294,7 +287,7 @@ public final class AgesTest {
     }
 
     private static void promise10LeastSum() {
-        GlacierBook x = withLayers(3);
+        GlacierBook x = Books.layers(3);
         x.least(1, 0, 10);
         x.least(2, 1, 10);
         x.least(1, 0, 12);
@@ -308,7 +301,7 @@ public final class AgesTest {
     }
 
     private static void promise10LeastNumbers() {
-        GlacierBook x = withLayers(4);
+        GlacierBook x = Books.layers(4);
         x.least(3, 2, 10);
         x.least(3, 1, 5);
         x.least(2, 0, 10);
@@ -321,7 +314,7 @@ public final class AgesTest {
         x.takeBack(2);
         Expect.badState("most(3, 0, 2)", () -> x.most(3, 0, 2));
         ring("one of the twins is gone", x, -1, 3, 1);
-        GlacierBook y = withLayers(1);
+        GlacierBook y = Books.layers(1);
         y.most(1, 0, 5);
         y.least(0, 1, -5);
         y.most(1, 0, 4);
@@ -330,14 +323,28 @@ public final class AgesTest {
         ring("bounds of two kinds", y, -1, 2);
     }
 
+    /** Bounds with lesser numbers and the same years that begin elsewhere are none of the ring. */
+    private static void promise10OtherBegins() {
+        GlacierBook x = Books.layers(3);
+        x.least(1, 2, 15);
+        x.least(3, 0, 5);
+        x.least(3, 2, 5);
+        x.least(1, 0, 15);
+        x.least(3, 1, 5);
+        Expect.badState("most(3, 0, 10)", () -> x.most(3, 0, 10));
+        ring("each begins where the one before ends", x, -1, 3, 4);
+        Expect.badState("most(3, 2, 19)", () -> x.most(3, 2, 19));
+        ring("each begins where the one before ends", x, -1, 0, 4);
+    }
+
     private static void promise10LongRing() {
-        GlacierBook x = withLayers(16);
+        GlacierBook x = Books.layers(16);
         for (int layer = 1; layer <= 16; layer++) {
             x.least(layer, layer - 1, 9999);
         }
         Expect.badState("most(16, 0, 9999)", () -> x.most(16, 0, 9999));
         ring("the least sum of all", x, -1, 0, 1, 2, 3, 4, 5, 6, 7, 8, 9, 10, 11, 12, 13, 14, 15);
-        GlacierBook y = withLayers(16);
+        GlacierBook y = Books.layers(16);
         for (int layer = 16; layer >= 1; layer--) {
             y.least(layer, layer - 1, 1);
         }
@@ -347,7 +354,7 @@ public final class AgesTest {
     }
 
     private static void promise10WhatIsKept() {
-        GlacierBook x = withLayers(2);
+        GlacierBook x = Books.layers(2);
         x.most(1, 0, 5);
         Expect.badState("least(1, 0, 6)", () -> x.least(1, 0, 6));
         ring("the first ring", x, -1, 0);
@@ -376,14 +383,14 @@ public final class AgesTest {
     }
 
     private static void promise11() {
-        GlacierBook x = withLayers(7);
+        GlacierBook x = Books.layers(7);
         Expect.is("layerCount()", x.layerCount(), 7);
         x.undo();
         Expect.is("layerCount() behind undo()", x.layerCount(), 6);
     }
 
     private static void promise12() {
-        GlacierBook x = withLayers(2);
+        GlacierBook x = Books.layers(2);
         x.least(1, 0, 1);
         x.most(1, 0, 1);
         Expect.is("boundCount()", x.boundCount(), 2);

@@ -18,10 +18,12 @@ public final class BandsTest {
         promise26Ties();
         promise27();
         promise28();
+        promise28FirstKind();
         promise29();
         promise30();
         promise31();
         promise32();
+        datesAndWays();
         allWays();
         Expect.end("BandsTest");
     }
@@ -252,6 +254,47 @@ public final class BandsTest {
         Expect.is("by the tie", v.partner(0, 0), 1);
     }
 
+    private static void partners(String what, GlacierBook x, int[] row0, int[] row1) {
+        for (int band = 0; band < row0.length; band++) {
+            Expect.is(what + ": partner(0, " + band + ")", x.partner(0, band), row0[band]);
+        }
+        for (int band = 0; band < row1.length; band++) {
+            Expect.is(what + ": partner(1, " + band + ")", x.partner(1, band), row1[band]);
+        }
+    }
+
+    /** Two best ways each time, of which one begins with each of two kinds; the first kind is taken. */
+    private static void promise28FirstKind() {
+        pair("TOGETHER, ONLY_0", "44", "4", 4, 2, 0, new int[] {0, -1}, new int[] {0});
+        pair("TOGETHER, ONLY_1", "4", "44", 4, 2, 0, new int[] {0}, new int[] {0, -1});
+        pair("TOGETHER, DOUBLE_1", "22", "111", 4, 2, 0, new int[] {0, 1}, new int[] {0, 1, 1});
+        pair("TOGETHER, DOUBLE_0", "111", "22", 4, 2, 0, new int[] {0, 1, 1}, new int[] {0, 1});
+        pair("ONLY_0, ONLY_1", "19", "91", 4, 20, 0, new int[] {-1, 0}, new int[] {1, -1});
+        pair("ONLY_0, DOUBLE_1", "66", "33", 2, 2, 0, new int[] {-1, 0}, new int[] {1, 1});
+        pair("ONLY_0, DOUBLE_0", "333", "6", 2, 2, 0, new int[] {-1, 0, 0}, new int[] {1});
+        pair("ONLY_1, DOUBLE_1", "6", "333", 2, 2, 0, new int[] {1}, new int[] {-1, 0, 0});
+        pair("ONLY_1, DOUBLE_0", "33", "66", 2, 2, 0, new int[] {1, 1}, new int[] {-1, 0});
+        GlacierBook x = new GlacierBook();
+        int[] marks0 = {0, 1, 0};
+        int[] marks1 = {1, 0, 1};
+        for (int band = 0; band < 3; band++) {
+            x.addBand(0, 1, marks0[band]);
+            x.addBand(1, 1, marks1[band]);
+        }
+        x.setPrices(20, 0, 20);
+        Expect.is("DOUBLE_1, DOUBLE_0: leastPrice()", x.leastPrice(), 2);
+        Expect.is("DOUBLE_1, DOUBLE_0: bestWays()", x.bestWays(), 2L);
+        partners("DOUBLE_1, DOUBLE_0", x, new int[] {0, 2, 2}, new int[] {0, 0, 1});
+    }
+
+    private static void pair(String what, String row0, String row1, int missed, int twice, int mark, int[] due0,
+            int[] due1) {
+        GlacierBook x = withBands(row0, row1);
+        x.setPrices(missed, twice, mark);
+        Expect.is(what + ": bestWays()", x.bestWays(), 2L);
+        partners(what, x, due0, due1);
+    }
+
     private static void promise29() {
         GlacierBook x = withBands("44", "4");
         Expect.noIndex("isSure(-1, 0)", () -> x.isSure(-1, 0));
@@ -293,6 +336,7 @@ public final class BandsTest {
         Expect.badNumber("setDate(0, 4, -1)", () -> x.setDate(0, 4, -1));
         Expect.is("setDate(0, 0, 400), the same", x.setDate(0, 0, 400), -1);
         Expect.is("setDate(0, 4, 400), the same", x.setDate(0, 4, 400), -1);
+        Expect.is("ageOf(0, 1), between the same", x.ageOf(0, 1), 400);
         Expect.is("setDate(1, 0, 0), the other row", x.setDate(1, 0, 0), -1);
         Expect.is("setDate(0, 4, 99999)", x.setDate(0, 4, 99999), 400);
         Expect.is("setDate(0, 0, 0)", x.setDate(0, 0, 0), 400);
@@ -348,6 +392,28 @@ public final class BandsTest {
         y.setDate(0, 0, 0);
         y.setDate(0, 15, 99999);
         Expect.is("ageOf(0, 14) of 16", y.ageOf(0, 14), 93332);
+    }
+
+    /** Dates tell nothing of how bands are laid, nor ties of ages. */
+    private static void datesAndWays() {
+        GlacierBook x = withBands("195", "915");
+        x.setPrices(4, 20, 0);
+        x.setDate(0, 0, 10);
+        x.setDate(0, 1, 2000);
+        x.setDate(0, 2, 3000);
+        x.setDate(1, 0, 10);
+        x.setDate(1, 2, 12);
+        Expect.is("leastPrice() of dated bands", x.leastPrice(), 8);
+        Expect.is("bestWays() of dated bands", x.bestWays(), 2L);
+        partners("dated bands", x, new int[] {-1, 0, 2}, new int[] {1, -1, 2});
+        Expect.is("tie(1, 1) of unlike dates", x.tie(1, 1), 1);
+        Expect.is("ageOf(1, 1), tied", x.ageOf(1, 1), 11);
+        Expect.nothingThere("noDate(1, 1), tied", () -> x.noDate(1, 1));
+        Expect.is("leastPrice() of dated bands, tied", x.leastPrice(), 16);
+        GlacierBook y = withBands("22", "4");
+        y.setDate(0, 0, 10);
+        y.setDate(1, 0, 11);
+        Expect.is("leastPrice() of two dated ones beside one", y.leastPrice(), 2);
     }
 
     // ---- all ways, one after the other, for small rows

@@ -8,6 +8,8 @@ public final class IceTest {
         promise41();
         promise42();
         promise42Flow();
+        promise42EachFall();
+        promise42EachAmount();
         promise42Weather();
         promise43();
         promise44();
@@ -101,6 +103,39 @@ public final class IceTest {
         }
         for (int cell = 0; cell < 12; cell++) {
             Expect.is("50 steps at once or one by one", v.iceOf(cell), one.iceOf(cell));
+        }
+    }
+
+    /** A quarter of the fall, rounded down; nothing runs to a surface that is not lower. */
+    private static void promise42EachFall() {
+        for (int fall = -5; fall <= 40; fall++) {
+            for (int side = -1; side <= 1; side += 2) {
+                GlacierBook x = new GlacierBook();
+                x.setCell(5, 100 + fall, 400);
+                x.setCell(5 + side, 500, 0);
+                x.setCell(5 - side, 999, 0);
+                Expect.is("flow()", x.flow(1, 0, 0, 0), 400);
+                int due = fall < 0 ? 0 : fall / 4;
+                Expect.is("ice behind a fall of " + fall, x.iceOf(5), 400 - due);
+                Expect.is("ice below a fall of " + fall, x.iceOf(5 + side), due);
+            }
+        }
+    }
+
+    /** Not more than half of the ice, rounded down, to each side: so no cell ever has less than none. */
+    private static void promise42EachAmount() {
+        for (int ice = 0; ice <= 12; ice++) {
+            GlacierBook x = new GlacierBook();
+            x.setCell(5, 900, ice);
+            x.flow(1, 2000, 0, 0);
+            Expect.is("ice of " + ice + " that runs to both sides", x.iceOf(5), ice % 2);
+            Expect.is("half of " + ice + " below", x.iceOf(4), ice / 2);
+            Expect.is("half of " + ice + " below", x.iceOf(6), ice / 2);
+            GlacierBook y = new GlacierBook();
+            y.setCell(11, 900, ice);
+            y.flow(1, 2000, 0, 0);
+            Expect.is("ice of " + ice + " at the end", y.iceOf(11), ice - ice / 2);
+            Expect.is("ice of " + ice + " does not run round", y.iceOf(0), 0);
         }
     }
 

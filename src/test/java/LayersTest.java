@@ -25,7 +25,7 @@ public final class LayersTest {
     }
 
     private static void promise13() {
-        GlacierBook x = AgesTest.withLayers(4);
+        GlacierBook x = Books.layers(4);
         for (int wrong : WRONG_OF_FOUR) {
             Expect.noLayer("layOn(" + wrong + ", 1)", () -> x.layOn(wrong, 1));
             Expect.noLayer("layOn(1, " + wrong + ")", () -> x.layOn(1, wrong));
@@ -48,7 +48,7 @@ public final class LayersTest {
     }
 
     private static void promise14() {
-        GlacierBook x = AgesTest.withLayers(4);
+        GlacierBook x = Books.layers(4);
         x.layOn(1, 2);
         x.layOn(2, 3);
         x.layOn(1, 3);
@@ -75,7 +75,7 @@ public final class LayersTest {
     }
 
     private static void promise15() {
-        GlacierBook x = AgesTest.withLayers(4);
+        GlacierBook x = Books.layers(4);
         x.layOn(4, 2);
         x.layOn(2, 1);
         x.layOn(1, 3);
@@ -85,7 +85,7 @@ public final class LayersTest {
                 Expect.is("isAbove(" + a + ", " + b + ")", x.isAbove(a, b), place[a] < place[b]);
             }
         }
-        GlacierBook y = AgesTest.withLayers(16);
+        GlacierBook y = Books.layers(16);
         for (int between = 1; between <= 16; between++) {
             int upper = between % 16 + 1;
             int lower = upper % 16 + 1;
@@ -103,7 +103,7 @@ public final class LayersTest {
     }
 
     private static void promise16() {
-        GlacierBook x = AgesTest.withLayers(4);
+        GlacierBook x = Books.layers(4);
         Expect.is("lineCount() at first", x.lineCount(), 0);
         x.layOn(1, 4);
         x.layOn(2, 4);
@@ -118,7 +118,7 @@ public final class LayersTest {
     }
 
     private static void promise17() {
-        GlacierBook x = AgesTest.withLayers(16);
+        GlacierBook x = Books.layers(16);
         Expect.noIndex("lineAt(0) without lines", () -> x.lineAt(0));
         x.layOn(16, 1);
         x.layOn(3, 9);
@@ -156,7 +156,7 @@ public final class LayersTest {
         x.undo();
         x.undo();
         Expect.is("orders() with 14 again", x.orders(), factorial / 6);
-        GlacierBook y = AgesTest.withLayers(4);
+        GlacierBook y = Books.layers(4);
         y.layOn(1, 3);
         y.layOn(2, 3);
         y.layOn(2, 4);
@@ -166,22 +166,22 @@ public final class LayersTest {
     }
 
     private static void promise18ManyLayers() {
-        GlacierBook x = AgesTest.withLayers(14);
+        GlacierBook x = Books.layers(14);
         for (int layer = 1; layer < 14; layer++) {
             x.layOn(layer + 1, layer);
         }
         Expect.is("orders() of a chain of 14", x.orders(), 1L);
-        GlacierBook y = AgesTest.withLayers(14);
+        GlacierBook y = Books.layers(14);
         for (int layer = 1; layer < 14; layer++) {
             y.layOn(14, layer);
         }
         Expect.is("orders() of one on 13", y.orders(), 6227020800L);
-        GlacierBook z = AgesTest.withLayers(14);
+        GlacierBook z = Books.layers(14);
         for (int layer = 1; layer < 14; layer += 2) {
             z.layOn(layer, layer + 1);
         }
         Expect.is("orders() of seven pairs", z.orders(), 87178291200L / 128);
-        GlacierBook w = AgesTest.withLayers(14);
+        GlacierBook w = Books.layers(14);
         for (int layer = 1; layer < 14; layer++) {
             if (layer % 2 == 0) {
                 w.layOn(layer, layer + 1);
@@ -202,7 +202,7 @@ public final class LayersTest {
 
     private static void promise19() {
         order("without layers", new GlacierBook());
-        GlacierBook x = AgesTest.withLayers(5);
+        GlacierBook x = Books.layers(5);
         order("loose ones", x, 1, 2, 3, 4, 5);
         x.layOn(5, 1);
         order("5 on 1", x, 2, 3, 4, 5, 1);
@@ -212,7 +212,7 @@ public final class LayersTest {
         order("1 on 4", x, 3, 2, 5, 1, 4);
         Expect.noIndex("orderAt(MAX)", () -> x.orderAt(Integer.MAX_VALUE));
         Expect.noIndex("orderAt(MIN)", () -> x.orderAt(Integer.MIN_VALUE));
-        GlacierBook y = AgesTest.withLayers(16);
+        GlacierBook y = Books.layers(16);
         for (int layer = 1; layer < 16; layer++) {
             y.layOn(layer + 1, layer);
         }
@@ -220,7 +220,7 @@ public final class LayersTest {
     }
 
     private static void promise20() {
-        GlacierBook x = AgesTest.withLayers(4);
+        GlacierBook x = Books.layers(4);
         for (int wrong : WRONG_OF_FOUR) {
             Expect.noLayer("phase(" + wrong + ")", () -> x.phase(wrong));
         }
@@ -237,7 +237,7 @@ public final class LayersTest {
         Expect.is("phase(1), a chain of three", x.phase(1), 3);
         x.takeOff(4, 3);
         Expect.is("phase(1), the chain is cut", x.phase(1), 1);
-        GlacierBook y = AgesTest.withLayers(16);
+        GlacierBook y = Books.layers(16);
         for (int layer = 1; layer < 16; layer++) {
             y.layOn(layer + 1, layer);
         }
@@ -248,7 +248,7 @@ public final class LayersTest {
     private static void allSmallPiles() {
         int[][] pairs = {{1, 2}, {1, 3}, {1, 4}, {2, 3}, {2, 4}, {3, 4}};
         for (int told = 0; told < 64; told++) {
-            GlacierBook x = AgesTest.withLayers(4);
+            GlacierBook x = Books.layers(4);
             PlainBook y = new PlainBook();
             for (int layer = 0; layer < 4; layer++) {
                 y.addLayer();

@@ -13,57 +13,42 @@ public final class LinesTest {
         Expect.end("LinesTest");
     }
 
-    /** Returns up to 8 signs as the number that type() takes. */
-    private static long bytes(String signs) {
-        long bytes = 0;
-        for (char sign : signs.toCharArray()) {
-            bytes = bytes << 8 | sign;
-        }
-        return bytes;
-    }
-
-    static void type(GlacierBook x, String line) {
-        for (int at = 0; at < line.length(); at += 8) {
-            x.type(bytes(line.substring(at, Math.min(at + 8, line.length()))));
-        }
-    }
-
     private static int faultOf(String line) {
         GlacierBook x = new GlacierBook();
-        type(x, line);
+        Books.type(x, line);
         return x.fault();
     }
 
     private static int lineOn(GlacierBook x, String line) {
-        type(x, line);
+        Books.type(x, line);
         return x.doLine();
     }
 
     private static void promise45() {
-        GlacierBook x = AgesTest.withLayers(1);
+        GlacierBook x = Books.layers(1);
         Expect.is("type(0)", x.type(0L), 0);
-        Expect.is("type() of 'layer'", x.type(bytes("layer")), 5);
+        Expect.is("type() of 'layer'", x.type(Books.bytes("layer")), 5);
         Expect.is("fault()", x.fault(), -1);
         Expect.is("type() with bytes that are 0 between", x.type(0x2000200000002000L), 8);
         Expect.is("fault()", x.fault(), -1);
         Expect.is("type() of one, the highest byte", x.type((long) 'x' << 56), 9);
         Expect.is("fault()", x.fault(), 1);
         Expect.is("doLine() empties the text", throwsAtDoLine(x), true);
-        Expect.is("type() of 8", x.type(bytes("least 1 ")), 8);
-        Expect.is("type() of the rest, 0 ahead", x.type(bytes("0 7")), 11);
+        Expect.is("type() of 8", x.type(Books.bytes("least 1 ")), 8);
+        Expect.is("type() of the rest, 0 ahead", x.type(Books.bytes("0 7")), 11);
         Expect.is("doLine(), the highest one first", x.doLine(), 0);
         Expect.is("low(1, 0)", x.low(1, 0), 7);
-        Expect.is("type() behind doLine()", x.type(bytes("1")), 1);
+        Expect.is("type() behind doLine()", x.type(Books.bytes("1")), 1);
         GlacierBook y = new GlacierBook();
         for (int i = 1; i <= 9; i++) {
-            Expect.is("type() of 8 blanks", y.type(bytes("        ")), 8 * i);
+            Expect.is("type() of 8 blanks", y.type(Books.bytes("        ")), 8 * i);
         }
-        Expect.is("type() up to 78", y.type(bytes("layer ")), 78);
-        Expect.badState("type() up to 81", () -> y.type(bytes("abc")));
-        Expect.badNumber("type() up to 81, and a wrong byte", () -> y.type(bytes("ab") << 8 | 31));
-        Expect.is("type() up to 80", y.type(bytes("  ")), 80);
+        Expect.is("type() up to 78", y.type(Books.bytes("layer ")), 78);
+        Expect.badState("type() up to 81", () -> y.type(Books.bytes("abc")));
+        Expect.badNumber("type() up to 81, and a wrong byte", () -> y.type(Books.bytes("ab") << 8 | 31));
+        Expect.is("type() up to 80", y.type(Books.bytes("  ")), 80);
         Expect.is("type(0) with 80", y.type(0L), 80);
-        Expect.badState("type() up to 81", () -> y.type(bytes("a")));
+        Expect.badState("type() up to 81", () -> y.type(Books.bytes("a")));
         Expect.is("fault() as before", y.fault(), -1);
         Expect.is("type() is no act", y.actCount(), 0);
     }
@@ -100,7 +85,9 @@ public final class LinesTest {
     private static void promise46() {
         Expect.is("fault() without words", faultOf("    "), 0);
         for (String good : new String[] {"least 1 2 3", "most 1 2 3", "on 1 2", "band 0 1 2",
-            "date 0 1 2", "layer", "  layer", "layer  ", "  on   1  2  ", "least 99 -99 123456789"}) {
+            "date 0 1 2", "layer", "  layer", "layer  ", "  on   1  2  ", "least 99 -99 123456789",
+            "most 1 1 10000", "most -2147483648 2147483647 0", "on 0 0", "on 17 -1", "band 2 0 4",
+            "band -1 10 -1", "date 2 16 100000", "date 0 -1 -1"}) {
             Expect.is("fault() of '" + good + "'", faultOf(good), -1);
         }
         for (String bad : new String[] {"Layer", "layers", "laye", "lay er", "least1 2 3", "1", "onn 1 2", "o",
@@ -125,9 +112,9 @@ public final class LinesTest {
         Expect.is("fault() of layer 1", faultOf("layer 1"), 1);
         Expect.is("fault() of layer layer", faultOf("layer layer"), 1);
         GlacierBook x = new GlacierBook();
-        type(x, "layer ");
+        Books.type(x, "layer ");
         Expect.is("fault() changes nothing", x.fault(), -1);
-        type(x, "1");
+        Books.type(x, "1");
         Expect.is("fault() behind more", x.fault(), 1);
         Expect.is("fault() again", x.fault(), 1);
         Expect.is("the text is as it was", x.type(0L), 7);
@@ -135,9 +122,9 @@ public final class LinesTest {
 
     /** What words there were before tells nothing of the words that are missing now. */
     private static void promise46WordsBefore() {
-        GlacierBook x = AgesTest.withLayers(1);
+        GlacierBook x = Books.layers(1);
         lineOn(x, "least 1 0 5");
-        type(x, "least 1 0");
+        Books.type(x, "least 1 0");
         Expect.is("fault() of a word that was there", x.fault(), 3);
         Expect.badNumber("doLine()", x::doLine);
         Expect.is("fault() of the line that was there", x.fault(), 0);
@@ -162,21 +149,21 @@ public final class LinesTest {
 
     private static void promise46Ends() {
         GlacierBook x = new GlacierBook();
-        type(x, "x".repeat(80));
+        Books.type(x, "x".repeat(80));
         Expect.is("fault() of one word of 80 bytes", x.fault(), 0);
         StringBuilder line = new StringBuilder("on");
         for (int i = 0; i < 39; i++) {
             line.append(" 1");
         }
         GlacierBook y = new GlacierBook();
-        type(y, line.toString());
+        Books.type(y, line.toString());
         Expect.is("the text is full", y.type(0L), 80);
         Expect.is("fault() of 40 words", y.fault(), 3);
         GlacierBook z = new GlacierBook();
-        type(z, "1 ".repeat(40));
+        Books.type(z, "1 ".repeat(40));
         Expect.is("fault() of 40 numbers", z.fault(), 0);
         GlacierBook w = new GlacierBook();
-        type(w, " ".repeat(75) + "layer");
+        Books.type(w, " ".repeat(75) + "layer");
         Expect.is("fault() of a word at the very end", w.fault(), -1);
         Expect.is("doLine()", w.doLine(), 1);
     }
@@ -210,7 +197,7 @@ public final class LinesTest {
     }
 
     private static void promise47Exceptions() {
-        GlacierBook x = AgesTest.withLayers(2);
+        GlacierBook x = Books.layers(2);
         Expect.badNumber("doLine() without text", x::doLine);
         for (String bad : new String[] {"layer 1", "on 1 1 1", "least 1 2", "least 1 2 99999999999", "x", "   "}) {
             Expect.badNumber("doLine() of '" + bad + "'", () -> lineOn(x, bad));
@@ -250,7 +237,7 @@ public final class LinesTest {
 
     /** What a line does, and what it throws, is what its call does and throws. */
     private static void promise47IsTheCall() {
-        GlacierBook x = AgesTest.withLayers(3);
+        GlacierBook x = Books.layers(3);
         Expect.is("least 3 1 -5 by its numbers' order", lineOn(x, "least 3 1 -5"), 0);
         Expect.is("low(3, 1)", x.low(3, 1), -5);
         Expect.nothingThere("high(3, 1)", () -> x.high(3, 1));

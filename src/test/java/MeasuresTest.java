@@ -42,7 +42,7 @@ public final class MeasuresTest {
         x.addLayer();
         x.addLayer();
         Expect.is("aboveShare() of five", x.aboveShare(), 3.0f / 10.0f);
-        GlacierBook y = AgesTest.withLayers(16);
+        GlacierBook y = Books.layers(16);
         for (int layer = 1; layer < 8; layer++) {
             y.layOn(layer, 16);
         }

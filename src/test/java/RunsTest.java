@@ -142,16 +142,16 @@ public final class RunsTest {
 
     private int number(String kind) {
         switch (kind) {
-            case "point": return next(book.layerCount() + 1);
-            case "layer": case "place": return 1 + next(Math.max(1, book.layerCount())) - (kind.equals("place") ? 1 : 0);
+            case "point": return next(plain.layerCount() + 1);
+            case "layer": case "place": return 1 + next(Math.max(1, plain.layerCount())) - (kind.equals("place") ? 1 : 0);
             case "years": return next(5) == 0 ? next(19999) - 9999 : next(2 * years + 1) - years;
-            case "bound": return next(next(4) == 0 ? 50 : Math.max(1, book.boundCount()));
-            case "ring": return next(Math.max(1, book.ringLength()));
-            case "line": return next(Math.max(1, book.lineCount()));
+            case "bound": return next(next(4) == 0 ? 50 : Math.max(1, plain.boundCount()));
+            case "ring": return next(Math.max(1, plain.ringLength()));
+            case "line": return next(Math.max(1, plain.lineCount()));
             case "row": return next(2);
-            case "band": return next(Math.max(1, Math.min(book.bandCount(0), book.bandCount(1)) + 1));
-            case "band0": return next(Math.max(1, book.bandCount(0)));
-            case "band1": return next(Math.max(1, book.bandCount(1)));
+            case "band": return next(Math.max(1, Math.min(plain.bandCount(0), plain.bandCount(1)) + 1));
+            case "band0": return next(Math.max(1, plain.bandCount(0)));
+            case "band1": return next(Math.max(1, plain.bandCount(1)));
             case "thickness": return 1 + next(9);
             case "mark": case "part": return next(4);
             case "price": return next(3) == 0 ? next(21) : next(5);

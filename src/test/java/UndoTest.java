@@ -1,6 +1,3 @@
-import java.util.ArrayList;
-import java.util.List;
-
 /** Promises 48 and 49: undo. */
 public final class UndoTest {
     /** An act on a book. */
@@ -8,8 +5,16 @@ public final class UndoTest {
         int on(GlacierBook x);
     }
 
+    // As these have undone an act, there is room to remember one more.
+    private static final Books.Maker RICH = Books::richWithoutText;
+    private static final Books.Maker BOOK = RICH.and("undo()");
+    private static final Books.Maker FULL = Books::fullWithoutText;
+    private static final Books.Maker FULL_BOOK = FULL.and("undo()");
+    private static final Books.Maker NEW_BOOK = GlacierBook::new;
+
     public static void main(String[] args) {
         promise48EachAct();
+        promise48EachLine();
         promise48WithoutEffect();
         promise48EightAtMost();
         promise48TextAndRing();
@@ -18,142 +23,73 @@ public final class UndoTest {
         Expect.end("UndoTest");
     }
 
-    /** Makes a book in which each act can be done. */
-    private static GlacierBook book() {
-        GlacierBook x = AgesTest.withLayers(5);
-        x.least(1, 0, 10);
-        x.most(2, 1, 20);
-        x.layOn(1, 2);
-        for (int band = 0; band < 3; band++) {
-            x.addBand(0, 3 + band, band);
-            x.addBand(1, 4 + band, 1);
-        }
-        x.tie(0, 1);
-        x.setDate(0, 0, 100);
-        x.setDate(1, 2, 300);
-        x.setZone(1, 5, 2);
-        x.read(3, 4, -6);
-        x.read(5, 4, 8);
-        x.setCell(2, 10, 50);
-        x.flow(1, 20, 3, 2);
-        return x;
+    private static void undone(Books.Maker made, String told) {
+        Books.Maker acted = made.and(told);
+        Expect.is(told + " changes something", Books.differ(acted, made, Books.ACTS, Books.PAST), true);
+        undoneAct(told, made, acted);
+        Books.Maker again = acted.and("undo()", told);
+        Books.alike(told + " done, undone and done again", again, acted);
     }
 
-    /** All answers that undo brings back. */
-    private static List<Object> look(GlacierBook x) {
-        List<Object> all = new ArrayList<>(List.of(x.layerCount(), x.boundCount(), x.lineCount(),
-                x.orders(), x.bandCount(0), x.bandCount(1), x.leastPrice(), x.bestWays(), x.won(),
-                x.aboveShare(), x.errors()));
-        for (int a = 0; a <= x.layerCount(); a++) {
-            for (int b = 0; b <= x.layerCount(); b++) {
-                int first = a;
-                int second = b;
-                all.add(answer(() -> x.low(first, second)));
-                all.add(answer(() -> x.isAbove(first, second)));
-                all.add(answer(() -> x.phase(first)));
-            }
-        }
-        for (int row = 0; row < 2; row++) {
-            for (int band = 0; band < x.bandCount(row); band++) {
-                int r = row;
-                int b = band;
-                all.add(x.partner(row, band));
-                all.add(answer(() -> x.ageOf(r, b)));
-            }
-        }
-        for (int bound = 0; bound < 5; bound++) {
-            int b = bound;
-            all.add(answer(() -> x.follows(b)));
-        }
-        for (int zone = 0; zone < 8; zone++) {
-            int z = zone;
-            all.add(answer(() -> x.valueOf(z, 4)));
-            all.add(answer(() -> x.reason(z, 4)));
-        }
-        for (int part = 0; part < 4; part++) {
-            int p = part;
-            all.add(answer(() -> x.partBalance(p, 4)));
-            all.add(answer(() -> x.partBalance(p, 9)));
-        }
-        for (int cell = 0; cell < 12; cell++) {
-            all.add(x.iceOf(cell));
-        }
-        return all;
-    }
-
-    private static Object answer(Expect.Call call) {
-        try {
-            return call.answer();
-        } catch (RuntimeException e) {
-            return e.getClass();
-        }
-    }
-
-    private static void undone(String what, Act act) {
-        GlacierBook x = book();
-        List<Object> before = look(x);
-        act.on(x);
-        Expect.is(what + " changes something", look(x).equals(before), false);
-        Expect.is("undo() of " + what, x.undo(), 7);
-        Expect.is("behind undo() of " + what, look(x), before);
-        Expect.is(what + " once more", answer(() -> act.on(x)), answer(() -> act.on(book())));
+    /** Behind undo() all is as it was before the act: also what is remembered, and what undo() brings then. */
+    private static void undoneAct(String what, Books.Maker before, Books.Maker acted) {
+        GlacierBook x = acted.make();
+        Expect.is("actCount() behind " + what, x.actCount(), before.make().actCount() + 1);
+        Expect.is("undo() of " + what, x.undo(), before.make().actCount());
+        Books.alike("behind undo() of " + what, acted.and("undo()"), before);
     }
 
     private static void promise48EachAct() {
-        undone("addLayer()", GlacierBook::addLayer);
-        undone("least()", x -> x.least(1, 0, 11));
-        undone("most()", x -> x.most(2, 1, 19));
-        undone("takeBack()", x -> x.takeBack(0));
-        undone("layOn()", x -> x.layOn(2, 5));
-        undone("takeOff()", x -> x.takeOff(1, 2));
-        undone("addBand()", x -> x.addBand(1, 2, 2));
-        undone("setPrices(), missed", x -> x.setPrices(5, 2, 3));
-        undone("setPrices(), double", x -> x.setPrices(4, 0, 3));
-        undone("setPrices(), marks", x -> x.setPrices(4, 2, 0));
-        undone("tie()", x -> x.tie(2, 2));
-        undone("untie()", x -> x.untie(1, 1));
-        undone("setDate()", x -> x.setDate(0, 0, 99));
-        undone("noDate()", x -> x.noDate(1, 2));
-        undone("setZone(), its area", x -> x.setZone(4, 2, 0));
-        undone("setZone(), its part", x -> x.setZone(4, 1, 1));
-        undone("read()", x -> x.read(7, 4, 3));
-        undone("read() of another year", x -> x.read(7, 9, 3));
-        undone("noReading()", x -> x.noReading(3, 4));
-        undone("setCell(), its ice", x -> x.setCell(2, 10, 51));
-        undone("flow()", x -> x.flow(3, 20, 3, 2));
-        undone("doLine()", x -> {
-            LinesTest.type(x, "layer");
-            return x.doLine();
-        });
-        GlacierBook y = book();
-        y.setCell(3, 500, 0);
-        y.undo();
-        y.flow(2, 30, 3, 2);
-        GlacierBook z = book();
-        z.flow(2, 30, 3, 2);
-        Expect.is("undo() of setCell(), its bed", look(y), look(z));
+        for (String told : new String[] {"addLayer()", "least(1, 0, 11)", "most(2, 1, 19)", "takeBack(0)",
+            "takeBack(3)", "layOn(2, 5)", "takeOff(1, 2)", "takeOff(1, 4)", "addBand(0, 2, 2)", "addBand(1, 2, 2)",
+            "setPrices(6, 1, 4)", "setPrices(5, 0, 4)", "setPrices(5, 1, 3)", "tie(2, 3)", "untie(1, 2)",
+            "untie(0, 1)", "setDate(0, 0, 99)", "setDate(1, 3, 300)", "noDate(1, 2)", "setZone(4, 2, 0)",
+            "setZone(4, 1, 1)", "read(7, 4, 3)", "read(3, 4, -7)", "read(7, 8, 0)", "noReading(3, 4)",
+            "noReading(0, 9)", "setCell(2, 10, 51)", "setCell(2, 900, 50)", "flow(3, 20, 3, 2)"}) {
+            undone(BOOK, told);
+        }
+        for (String told : new String[] {"takeBack(49)", "takeBack(0)", "takeOff(15, 16)", "setPrices(20, 20, 20)",
+            "untie(1, 15)", "setDate(0, 15, 99999)", "setDate(1, 15, 99999)", "noDate(0, 15)", "setZone(7, 1, 0)",
+            "read(7, 9, -999)", "noReading(7, 0)", "setCell(11, 0, 0)", "flow(50, 2000, 20, 20)"}) {
+            undone(FULL_BOOK, told);
+        }
+        for (String told : new String[] {"addLayer()", "addBand(0, 9, 3)", "addBand(1, 9, 3)", "setPrices(0, 0, 0)",
+            "setZone(0, 2, 3)", "read(0, 0, 0)", "setCell(0, 1, 1)", "flow(1, 0, 1, 1)"}) {
+            undone(NEW_BOOK, told);
+        }
     }
 
+    /** doLine() is one act with what it does; the text of the line is not brought back. */
+    private static void promise48EachLine() {
+        for (String line : new String[] {"layer", "least 1 0 11", "most 2 1 19", "on 2 5", "on 1 2", "band 1 2 2",
+            "date 0 0 99"}) {
+            Books.Maker acted = BOOK.andTry(x -> {
+                Books.type(x, line);
+                return x.doLine();
+            });
+            boolean changes = !line.equals("on 1 2");
+            Expect.is(line + " changes something", Books.differ(acted, BOOK, Books.ACTS, Books.PAST), changes);
+            undoneAct(line, BOOK, acted);
+        }
+    }
+
+    /** An act is remembered even if nothing is different by it. */
     private static void promise48WithoutEffect() {
-        GlacierBook x = book();
-        List<Object> before = look(x);
-        x.layOn(1, 2);
-        x.setPrices(4, 2, 3);
-        x.setDate(0, 0, 100);
-        x.setZone(1, 5, 2);
-        x.read(3, 4, -6);
-        x.setCell(11, 0, 0);
-        Expect.is("acts without effect", look(x), before);
+        for (String told : new String[] {"layOn(1, 2)", "setPrices(5, 1, 4)", "setDate(0, 0, 100)",
+            "setZone(1, 5, 2)", "read(3, 4, -6)", "setCell(11, 0, 0)", "flow(50, 2000, 0, 0)"}) {
+            Books.Maker made = told.startsWith("flow") ? NEW_BOOK.and("read(1, 1, 1)") : BOOK;
+            Books.Maker acted = made.and(told);
+            Expect.is(told + " changes something", Books.differ(acted, made, Books.ACTS, Books.PAST), false);
+            undoneAct(told, made, acted);
+        }
+        GlacierBook x = BOOK.make();
         x.addLayer();
         x.layOn(1, 2);
+        Expect.is("actCount()", x.actCount(), 8);
         Expect.is("undo() of what is no different", x.undo(), 7);
         Expect.is("layerCount() with the act before", x.layerCount(), 6);
         Expect.is("undo() of addLayer()", x.undo(), 6);
         Expect.is("layerCount()", x.layerCount(), 5);
-        for (int left = 5; left >= 0; left--) {
-            Expect.is("undo() of what is no different", x.undo(), left);
-            Expect.is("all as before", look(x), before);
-        }
     }
 
     private static void promise48EightAtMost() {
@@ -178,7 +114,7 @@ public final class UndoTest {
     }
 
     private static void promise48TextAndRing() {
-        GlacierBook x = AgesTest.withLayers(1);
+        GlacierBook x = Books.layers(1);
         x.most(1, 0, 5);
         x.addLayer();
         x.type('o');
@@ -192,12 +128,12 @@ public final class UndoTest {
         Expect.is("undo() of the bound", x.undo(), 1);
         Expect.is("the ring stays", x.ringAt(1), 0);
         Expect.badNumber("doLine() of 'on'", x::doLine);
-        LinesTest.type(x, "layer");
+        Books.type(x, "layer");
         x.doLine();
         x.type('q');
         x.undo();
         Expect.is("the text of a line is not brought back", x.type(0L), 1);
-        GlacierBook y = AgesTest.withLayers(2);
+        GlacierBook y = Books.layers(2);
         y.least(1, 0, 1);
         y.undo();
         Expect.is("numbers of bounds are brought back", y.least(2, 0, 1), 0);
@@ -242,7 +178,7 @@ public final class UndoTest {
             z.setCell(0, i, i);
             Expect.is("actCount()", z.actCount(), Math.min(i, 8));
         }
-        LinesTest.type(z, "layer");
+        Books.type(z, "layer");
         Expect.is("actCount() behind type()", z.actCount(), 8);
         z.undo();
         z.undo();
