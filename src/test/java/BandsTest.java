@@ -410,10 +410,14 @@ public final class BandsTest {
         Expect.is("ageOf(1, 1), tied", x.ageOf(1, 1), 11);
         Expect.nothingThere("noDate(1, 1), tied", () -> x.noDate(1, 1));
         Expect.is("leastPrice() of dated bands, tied", x.leastPrice(), 16);
-        GlacierBook y = withBands("22", "4");
-        y.setDate(0, 0, 10);
-        y.setDate(1, 0, 11);
-        Expect.is("leastPrice() of two dated ones beside one", y.leastPrice(), 2);
+        for (int one = 0; one < 2; one++) {
+            GlacierBook y = one == 0 ? withBands("4", "22") : withBands("22", "4");
+            y.setDate(one, 0, 10);
+            y.setDate(1 - one, 0, 11);
+            y.setDate(1 - one, 1, 12);
+            Expect.is("leastPrice() of a dated one beside two", y.leastPrice(), 2);
+            Expect.is("bestWays() of a dated one beside two", y.bestWays(), 1L);
+        }
     }
 
     // ---- all ways, one after the other, for small rows
