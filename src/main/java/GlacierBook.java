@@ -927,10 +927,11 @@ public final class GlacierBook {
             if (all >= waysOfSet.length) {
                 return 0;
             }
+            Arrays.fill(waysOfSet, 0);
             waysOfSet[free] = 1;
-            for (int set = free + 1; set <= all; set++) {
-                if ((set & free) == free) {
-                    waysOfSet[set] = waysToEnd(set, free);
+            for (int set = free; set < all; set++) {
+                if (waysOfSet[set] > 0) {
+                    goOn(set);
                 }
             }
             long orders = waysOfSet[all];
@@ -938,6 +939,16 @@ public final class GlacierBook {
                 orders *= places;
             }
             return orders;
+        }
+
+        /** Adds the ways of a set to those of each set that has one layer more, which can be next. */
+        private void goOn(int set) {
+            for (int next = 1; next <= layers; next++) {
+                int bit = Pile.bit(next);
+                if ((set & bit) == 0 && (above[next] & ~set) == 0) {
+                    waysOfSet[set | bit] += waysOfSet[set];
+                }
+            }
         }
 
         private int freeLayers() {
@@ -948,18 +959,6 @@ public final class GlacierBook {
                 }
             }
             return free;
-        }
-
-        private long waysToEnd(int set, int free) {
-            long ways = 0;
-            for (int last = 1; last <= layers; last++) {
-                int bit = Pile.bit(last);
-                boolean isIn = (set & ~free & bit) != 0;
-                if (isIn && (above[last] & ~set) == 0) {
-                    ways += waysOfSet[set & ~bit];
-                }
-            }
-            return ways;
         }
 
         /** Counts the pairs that the lines alone put above one another otherwise than what was told. */
